@@ -81,7 +81,6 @@ public final class PolicyForge {
         policies[i] = spare;
         policies[i].there = true;
         spare = old;
-        spare.there = false;
         return policies[i].tokenCount;
     }
 
@@ -301,6 +300,7 @@ public final class PolicyForge {
         NUMERAL(""), ENTITY(""), END(""), STRAY("");
 
         private static final int LEVEL_NONE = -1;
+        private static final int LEVEL_EXPR = 0;
         private static final int LEVEL_RELATIONS = 2;
         private static final int LEVEL_SIGNED = 5;
         private static final Sign[] ALL = values();
@@ -638,13 +638,9 @@ public final class PolicyForge {
             if (!tokens.accept(Sign.WHEN) && !tokens.accept(Sign.UNLESS) || !tokens.accept(Sign.BEGIN)) {
                 return false;
             }
-            int root = readExpr(0);
+            int root = readLevel(Sign.LEVEL_EXPR, 0);
             return root != Policy.NO_NODE && tokens.accept(Sign.FINISH)
                     && made.addCondition(wanted, place, root);
-        }
-
-        private int readExpr(int deep) {
-            return deep >= TOO_DEEP ? Policy.NO_NODE : readLevel(0, deep);
         }
 
         /** The levels of the grammar from EXPR down to PRODUCT; relations alone do not repeat. */
@@ -671,6 +667,7 @@ public final class PolicyForge {
             return right == Policy.NO_NODE ? right : made.addNode(sign, place, 0, left, right);
         }
 
+        /** An EXPR begins with a SIGNED that is as deep, so that what is too deep is refused here. */
         private int readSigned(int deep) {
             Sign sign = tokens.sign();
             if (deep >= TOO_DEEP) {
@@ -742,7 +739,7 @@ public final class PolicyForge {
         /** Brackets leave no node: what stands in them is the part itself. */
         private int readBrackets(int deep) {
             tokens.step();
-            int inner = readExpr(deep + 1);
+            int inner = readLevel(Sign.LEVEL_EXPR, deep + 1);
             return inner != Policy.NO_NODE && tokens.accept(Sign.CLOSE) ? inner : Policy.NO_NODE;
         }
     }

@@ -50,10 +50,27 @@ public final class FaceTest {
             }
         }
         Due.is("the members", new TreeSet<>(Arrays.asList(MEMBERS)), () -> seen);
+        for (Method m : PolicyForge.class.getDeclaredMethods()) {
+            boolean hides = Modifier.isPrivate(m.getModifiers()) && namesAPublicOne(m.getName());
+            Due.is("a private method with a public one's name: " + m.getName(), false, () -> hides);
+        }
+        for (Class<?> inside : PolicyForge.class.getDeclaredClasses()) {
+            Due.is("is static: " + inside.getName(), true, () -> Modifier.isStatic(inside.getModifiers()));
+            Due.is("is seen: " + inside.getName(), false, () -> Modifier.isPublic(inside.getModifiers()));
+        }
         Due.is("the class", "public final", () -> Modifier.toString(PolicyForge.class.getModifiers()));
         Due.is("REFUSED", -1, () -> PolicyForge.REFUSED);
         Due.is("NONE", -2, () -> PolicyForge.NONE);
         Due.end("FaceTest");
+    }
+
+    private static boolean namesAPublicOne(String name) {
+        for (Method m : PolicyForge.class.getMethods()) {
+            if (m.getDeclaringClass() == PolicyForge.class && m.getName().equals(name)) {
+                return true;
+            }
+        }
+        return false;
     }
 
     private static boolean isSeen(int modifiers) {

@@ -11,6 +11,7 @@ public final class PolicyTest {
         faultsOfExpressions();
         depths();
         fullTexts();
+        shorterTexts();
         Due.end("PolicyTest");
     }
 
@@ -142,6 +143,8 @@ public final class PolicyTest {
         Due.fault(WHEN + "px}", 18);
         Due.fault(WHEN + "p.xx}", 20);
         Due.fault(WHEN + "p.w}", 20);
+        Due.fault(WHEN + "p.xz}", 20);
+        Due.fault(WHEN + "p.az}", 20);
         Due.fault(WHEN + "1>2}", 19);
         Due.fault(WHEN + "1=2}", 19);
         Due.fault(WHEN + "1= =2}", 19);
@@ -229,5 +232,33 @@ public final class PolicyTest {
         }
         count(whens.toString(), 8 + 48);
         count(whens + "   ", 8 + 48);
+        Due.fault("(".repeat(100), 0);
+        Due.fault("permit" + "(".repeat(94), 7);
+        Due.fault("1".repeat(100), 0);
+        Due.fault("p".repeat(100), 0);
+        Due.fault("permit(" + "@".repeat(93), 7);
+        Due.fault(WHEN + "1" + "+1".repeat(40) + "+", 100);
+        Due.fault(WHEN + "true" + " ".repeat(78), 100);
+    }
+
+    /** What an earlier, longer text had behind the end of this one does not come to it. */
+    private static void shorterTexts() {
+        shorter("permit(_,_,_)when{1==1}", "permit(_,_,_)when{1=", 19);
+        shorter("permit(_,_,_)when{1&&1}", "permit(_,_,_)when{1&", 19);
+        shorter("permit(_,_,_)when{1!=1}", "permit(_,_,_)when{!", 19);
+        shorter("permit(_,_,_)when{111111111}", "permit(_,_,_)when{111111", 24);
+        shorter("permit(@111", "permit(@1", 9);
+        shorter("permits(_,_,_)", "permit", 6);
+        shorter("permit(_,_,_)", "permit(_,_,_", 12);
+        shorter("permit(_,_,_)    when", "permit(_,_,_  ", 14);
+    }
+
+    private static void shorter(String first, String second, int place) {
+        PolicyForge x = new PolicyForge();
+        Due.write(x, first);
+        Due.answer(() -> x.policy(0));
+        Due.write(x, second);
+        Due.refused("policy of " + second + " behind " + first, () -> x.policy(0));
+        Due.is("where of " + second + " behind " + first, place, x::where);
     }
 }
