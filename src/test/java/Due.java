@@ -1,7 +1,14 @@
+import java.util.ArrayList;
+import java.util.List;
 import java.util.concurrent.Callable;
 
 /** What the project's tests share: they say what is due, feed texts, and end with the exit code. */
 final class Due {
+    /** Numbers that are none of anything, whatever is counted from 0. */
+    static final int[] NEVER = {-1, Integer.MIN_VALUE, Integer.MAX_VALUE, -256, 256};
+
+    private static final Object NONE_FOUND = PolicyForge.NONE;
+    private static final List<Quote> QUOTES = new ArrayList<>();
     private static int asked = 0;
     private static int wrong = 0;
 
@@ -22,7 +29,43 @@ final class Due {
         asked++;
         if (!want.equals(got)) {
             wrong++;
-            System.out.println(what + " answered " + got + ", due is " + want);
+            String sentence = QUOTES.isEmpty() ? "" : QUOTES.get(QUOTES.size() - 1) + ": ";
+            System.out.println(sentence + what + " answered " + got + ", due is " + want);
+        }
+    }
+
+    /** A sentence of the document, or a part of one, and the number of a promise that leans on it. */
+    static final class Quote {
+        final int promise;
+        final String words;
+        private final int askedBefore = asked;
+
+        Quote(int promise, String words) {
+            this.promise = promise;
+            this.words = words;
+        }
+
+        @Override
+        public String toString() {
+            return "promise " + promise + " \"" + words + "\"";
+        }
+    }
+
+    /** The answers that are due from here on are those that this sentence asks for. */
+    static void sentence(int promise, String words) {
+        requireAnswers();
+        QUOTES.add(new Quote(promise, words));
+    }
+
+    static List<Quote> quotes() {
+        requireAnswers();
+        return QUOTES;
+    }
+
+    private static void requireAnswers() {
+        if (!QUOTES.isEmpty() && QUOTES.get(QUOTES.size() - 1).askedBefore == asked) {
+            wrong++;
+            System.out.println(QUOTES.get(QUOTES.size() - 1) + " has no test");
         }
     }
 
@@ -80,12 +123,25 @@ final class Due {
         is("tokens behind " + text, PolicyForge.NONE, () -> x.count(10));
     }
 
+    /** The same with a ^ before the token, the character or the end where that is seen. */
+    static void fault(String marked) {
+        fault(marked.replace("^", ""), marked.indexOf('^'));
+    }
+
+    /** A text that is a policy of so many tokens. */
+    static void tokens(int tokens, String text) {
+        PolicyForge x = new PolicyForge();
+        write(x, text);
+        is("policy of " + text, tokens, () -> x.policy(5));
+        is("where of " + text, PolicyForge.NONE, x::where);
+        is("tokens of " + text, tokens, () -> x.count(15));
+        is("characters behind " + text, 0, () -> x.count(0));
+    }
+
     static void end(String name) {
         System.out.println(name + ": " + asked + " answers, " + wrong + " not as due");
         if (wrong != 0 || asked == 0) {
             System.exit(1);
         }
     }
-
-    private static final Object NONE_FOUND = PolicyForge.NONE;
 }
