@@ -28,6 +28,9 @@ final class Promise02 {
         Due.badState("one more", () -> full.text(' '));
         Due.is("its tokens up to the last character", 12, () -> full.policy(0));
         Due.is("room again", 8, () -> full.text(Due.packed("permit(_")));
+        Due.fault("^" + "(".repeat(100));
+        Due.fault("permit(^" + ",".repeat(93));
+        Due.fault("^" + "}".repeat(99) + "$");
     }
 
     private static void bytesInOrder() {

@@ -19,6 +19,7 @@ final class Promise03 {
         groups();
         depths();
         numbersOfPolicies();
+        anotherText();
         wrongNumbers();
         noPolicies();
     }
@@ -341,6 +342,50 @@ final class Promise03 {
         Due.is("as that says, too", false, () -> x.holds(5, 15, 0, 15));
         Due.is("the one before it", 24, () -> x.count(14));
         Due.tokens(92, WHEN + "1" + "+1".repeat(40) + "}");
+    }
+
+    /** Nothing of what a POLICY was before, nor of an earlier text, is left in it. */
+    private static void anotherText() {
+        Due.sentence(3, "becomes as THE TEXT says, which is empty then:");
+        PolicyForge x = new PolicyForge();
+        for (int turn = 0; turn < 4; turn++) {
+            Due.policy(x, 0, "forbid(@1,1,in @2)when{p==r}unless{1}");
+            Due.is("it fits no other", false, () -> x.holds(0, 0, 0, 0));
+            Due.policy(x, 0, HEAD);
+            Due.is("it fits all", true, () -> x.holds(0, 15, 9, 14));
+            Due.is("it permits all", true, () -> x.ask(0, 0, 0));
+            Due.policy(x, 1, "permit(in @1,9,@2)unless{p==@3}");
+            Due.is("it fits what that says", true, () -> x.holds(1, 1, 9, 2));
+            Due.policy(x, 1, "forbid(_,_,_)when{p==@3}when{r==@4}");
+            Due.is("it does not hold", false, () -> x.holds(1, 3, 1, 5));
+            Due.is("it holds", true, () -> x.holds(1, 3, 1, 4));
+            Due.is("it forbids", false, () -> x.ask(3, 1, 4));
+        }
+        for (int many = 1; many <= 4; many++) {
+            for (int k = 0; k < many; k++) {
+                Due.policy(x, 5, "forbid(in @1,1,@2)when{p==r}unless{p in r}");
+            }
+            Due.policy(x, 5, HEAD);
+            Due.is("it fits all behind " + many, true, () -> x.holds(5, 15, 9, 14));
+            Due.is("nothing is wrong in it", PolicyForge.NONE, () -> x.check(5));
+        }
+        shorter(WHEN + "1==1}", WHEN + "1^=");
+        shorter(WHEN + "1&&1}", WHEN + "1^&");
+        shorter(WHEN + "1!=1}", WHEN + "!^");
+        shorter(WHEN + "111111}", WHEN + "1^");
+        shorter("permit(@111,_,_)", "permit(@1^");
+        shorter("permits(_,_,_)", "permit^");
+        shorter(HEAD, "permit(_,_,_^");
+        shorter(HEAD + "    when", "permit(_,_,_  ^");
+    }
+
+    private static void shorter(String first, String marked) {
+        PolicyForge x = new PolicyForge();
+        Due.write(x, first);
+        Due.answer(() -> x.policy(0));
+        Due.write(x, marked.replace("^", ""));
+        Due.refused(marked + " behind " + first, () -> x.policy(0));
+        Due.is("where of " + marked + " behind " + first, marked.indexOf('^'), x::where);
     }
 
     private static void wrongNumbers() {

@@ -338,6 +338,27 @@ final class Promise11 {
         when("p.x<1&&p^.y");
         when("p in r&&p^.y");
         when("true&&p^.y");
+        noneSure("when{GET}");
+        noneSure("when{true&&GET}");
+        noneSure("when{!(HAS)&&GET}");
+        noneSure("when{(HAS)==true&&GET}");
+        noneSure("when{@3 has x&&@3 has y&&@3 has z&&GET}");
+        noneSure("when{1<2&&GET}");
+        noneSure("when{HAS||GET}");
+        noneSure("when{(true==(HAS))&&GET}");
+        noneSure("when{1==1}when{GET}");
+    }
+
+    /** The same for each ATTRIBUTE of both, when none is sure. */
+    private static void noneSure(String pattern) {
+        for (String of : new String[] {"p.x", "p.y", "p.z", "r.x", "r.y", "r.z"}) {
+            PolicyForge x = new PolicyForge();
+            for (int n = 0; n < 9; n++) {
+                x.declare(n / 3, n % 3, 2, 0, false);
+            }
+            String has = of.replace(".", " has ");
+            check(x, HEAD + pattern.replace("HAS", has).replace("GET", of.replace(".", "^.")));
+        }
     }
 
     private static void knownBehindWhen() {
@@ -355,6 +376,9 @@ final class Promise11 {
         check(x, HEAD + "when{p has y&&p has x}when{p.y}");
         check(x, HEAD + "when{true&&(p has y||p has y)}when{p.y}");
         check(x, HEAD + "when{p has y}".repeat(5) + "when{p.y}unless{r^.y}");
+        noneSure("unless{HAS}when{GET}");
+        noneSure("unless{true}when{GET}");
+        noneSure("when{true}unless{HAS}unless{GET}");
     }
 
     private static void truths() {
