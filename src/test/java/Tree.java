@@ -57,6 +57,20 @@ final class Tree {
             int k = kind[number(e)];
             return k < 0 ? "e" : "e" + k;
         }
+
+        boolean conforms(int e) {
+            boolean so = kind[e] >= 0;
+            for (int a = 0; a < 3 && so; a++) {
+                Object value = attribute[e][a];
+                String type = declared[kind[e]][a];
+                so = value == null ? type == null || !sure[kind[e]][a] : typeOf(value).equals(type);
+            }
+            return so;
+        }
+
+        private String typeOf(Object value) {
+            return value instanceof Integer ? "n" : value instanceof Boolean ? "t" : kindsOf((String) value);
+        }
     }
 
     static int number(String e) {
