@@ -12,6 +12,7 @@ final class Promise11 {
     static void run() {
         firstToken();
         partsFirst();
+        tallest();
         kindsOfScopes();
         kindsOfEntities();
         wantedTypes();
@@ -95,6 +96,23 @@ final class Promise11 {
         check(declared(), HEAD + "when{^!1}when{!1}");
         check(declared(), HEAD + "^when{1}when{!1}");
         check(declared(), HEAD + "when{true}unless{1^<p}when{!1}");
+    }
+
+    /** Trees as tall as 100 characters allow. */
+    private static void tallest() {
+        Due.sentence(11, "repetitions group to the left.");
+        when("------1" + "*1".repeat(36) + "<1");
+        when("-----^-p" + "*1".repeat(36) + "<1");
+        when("------1" + "*1".repeat(36) + "^<p");
+        when("1" + "+1".repeat(39) + "<1");
+        when("p^+1" + "+1".repeat(38) + "<1");
+        when("p" + ".z".repeat(37) + ".x<1");
+        when("p" + ".z".repeat(38) + "^.y");
+        when("p.x^.z" + ".z".repeat(36) + "==p");
+        when("1<1" + "&&1<1".repeat(15));
+        when("p has y" + "&&1<1".repeat(13) + "&&p.y");
+        when("p has x" + "&&1<1".repeat(13) + "&&p^.y");
+        when("(p has y||1<1" + "&&1<1".repeat(12) + ")&&p^.y");
     }
 
     private static void kindsOfScopes() {

@@ -24,6 +24,7 @@ final class Promise12 {
         attributes();
         overflows();
         errorsInOrder();
+        tallest();
         numbers();
         wrongNumbers();
         noPolicy();
@@ -327,6 +328,24 @@ final class Promise12 {
         worth(OVERFLOW, "-" + over + "==1");
         worth(MISSING, "r.y.x==1");
         worth(MISSING, "r.z has x");
+    }
+
+    /** Trees as tall as 100 characters allow. */
+    private static void tallest() {
+        Due.sentence(12, "repetitions group to the left.");
+        holds(true, HEAD + "when{------1" + "*1".repeat(36) + "<2}");
+        holds(false, HEAD + "when{------1" + "*1".repeat(36) + "<1}");
+        holds(OVERFLOW, HEAD + "when{-----" + LEAST + "*1".repeat(34) + "<2}");
+        holds(MISSING, HEAD + "when{------r.y" + "*1".repeat(35) + "<2}");
+        holds(true, HEAD + "when{1" + "-1".repeat(39) + "<0}");
+        holds(false, HEAD + "when{1" + "+1".repeat(39) + "<1}");
+        holds(true, HEAD + "when{1<2" + "&&1<2".repeat(15) + "}");
+        holds(false, HEAD + "when{1<1" + "||1<1".repeat(15) + "}");
+        String chain = HEAD + "when{p" + ".z".repeat(38) + "==p}";
+        PolicyForge x = with(chain);
+        Due.is(chain, MISSING, () -> x.holds(0, 0, 0, 1));
+        x.set(1, 2, 3, 0);
+        Due.is("the ENTITIES 0 and 1 by turns: " + chain, true, () -> x.holds(0, 0, 0, 1));
     }
 
     private static void numbers() {

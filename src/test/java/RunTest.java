@@ -104,13 +104,24 @@ public final class RunTest {
     }
 
     private String newText() {
-        Writer writer = new Writer(chance);
-        String text = writer.text;
+        String text = chance.in100(90) ? new Writer(chance).text : tall();
         int changes = chance.in100(65) ? 0 : 1 + chance.next(3);
         for (int i = 0; i < changes; i++) {
             text = changed(text);
         }
         return text;
+    }
+
+    /** A tree that is about as tall as a text allows. */
+    private String tall() {
+        StringBuilder text = new StringBuilder("permit(_,_,_)when{");
+        text.append(chance.one("-", "!").repeat(chance.next(8))).append(chance.one("1", "p", "r.x", "(p has z)"));
+        String step = chance.one("+1", "*1", "-7", ".z", "&&true", "||p.y");
+        String end = chance.one("<2}", "==p}", "}", ".x}");
+        while (text.length() + step.length() + end.length() <= 100) {
+            text.append(step);
+        }
+        return text.append(end).toString();
     }
 
     private String changed(String text) {
